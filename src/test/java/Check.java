@@ -18,6 +18,13 @@ final class Check {
         }
     }
 
+    static void due(String what, String got, String want) {
+        checked++;
+        if (!got.equals(want)) {
+            tell(what + " answered " + got + ", due is " + want);
+        }
+    }
+
     static void due(String what, byte[] got, byte[] want) {
         int place = java.util.Arrays.mismatch(got, want);
         checked++;

@@ -100,6 +100,10 @@ final class Form {
         return this;
     }
 
+    Form codesOf(Form other) {
+        return codes(other.letterSizes, other.distanceSizes);
+    }
+
     Form letter(int symbol) {
         return symbol(letterSizes, symbol);
     }

@@ -7,6 +7,8 @@ public final class InputTest {
         newObject();
         feed();
         feedAtTheLimit();
+        feedNearTheLimit();
+        fullInput();
         end();
         change();
         turn();
@@ -14,11 +16,10 @@ public final class InputTest {
         Check.finish();
     }
 
-    /** INPUT cannot be read, but its hash can be set against that of the same TEXT fed at once. */
+    /** INPUT cannot be read, but its hash can. */
     private static void dueInput(String what, TextPress press, byte[] want) {
-        TextPress other = Texts.withInput(want);
         for (int part = 0; part < 3; part++) {
-            Check.due(what + ", hash(" + part + ")", press.hash(part), other.hash(part));
+            Check.due(what + ", hash(" + part + ")", press.hash(part), Texts.sha1(want, part));
         }
         Check.due(what + ", count(0)", press.count(0), want.length);
     }
@@ -82,6 +83,39 @@ public final class InputTest {
         Check.due("hash(0) of the same TEXT", press.hash(0), before);
     }
 
+    /** The last place of a full INPUT, and the one behind it; all of it goes at once. */
+    private static void fullInput() {
+        TextPress press = full(Texts.LONGEST);
+        byte[] want = Texts.same(7, Texts.LONGEST);
+        press.change(Texts.LONGEST - 1, 128);
+        want[Texts.LONGEST - 1] ^= (byte) 128;
+        dueInput("change of BYTE 65535", press, want);
+        Check.dueThrow("change of BYTE 65536", BAD, () -> {
+            press.change(Texts.LONGEST, 128);
+            return 0;
+        });
+        Check.dueThrow("end(65537)", BAD, () -> press.end(Texts.LONGEST + 1));
+        dueInput("a full INPUT behind refused calls", press, want);
+        Check.due("end(65536)", press.end(Texts.LONGEST), 0);
+        dueInput("a full INPUT that went", press, new byte[0]);
+        Check.due("feed anew", press.feed(0x01020304, 0, 0, 0, 5), 20);
+        dueInput("fed anew", press, Texts.of(1, 2, 3, 4, 0, 0, 0, 0, 0, 0, 0, 0, 0, 0, 0, 0, 0, 0, 0, 5));
+    }
+
+    /** Room for twenty BYTES, to the very last one, or for nineteen. */
+    private static void feedNearTheLimit() {
+        for (int n = Texts.LONGEST - 23; n <= Texts.LONGEST; n++) {
+            TextPress press = full(n);
+            if (n <= Texts.LONGEST - 20) {
+                Check.due("feed at " + n, press.feed(-1, -1, -1, -1, -1), n + 20);
+                dueInput("fed at " + n, press, Texts.joined(Texts.same(7, n), Texts.same(255, 20)));
+            } else {
+                Check.dueThrow("feed at " + n, STATE, () -> press.feed(-1, -1, -1, -1, -1));
+                dueInput("not fed at " + n, press, Texts.same(7, n));
+            }
+        }
+    }
+
     private static void end() {
         TextPress press = Texts.withInput(Texts.of("the quick brown fox jumps"));
         Check.due("end(6)", press.end(6), 19);
@@ -108,6 +142,11 @@ public final class InputTest {
         dueInput("change of first and last", press, Texts.joined(Texts.of("xbcde"), Texts.of('f' ^ 255)));
         press.change(5, 255);
         dueInput("change back", press, Texts.of("xbcdef"));
+        for (int x = 0; x < 256; x++) {
+            press.change(2, x);
+            dueInput("change by " + x, press, Texts.joined(Texts.of("xb"), Texts.of('c' ^ x), Texts.of("def")));
+            press.change(2, x);
+        }
         int[][] bad = {{-1, 1}, {6, 1}, {Integer.MAX_VALUE, 1}, {Integer.MIN_VALUE, 1}, {0, -1}, {0, 256},
             {0, Integer.MIN_VALUE}, {0, Integer.MAX_VALUE}, {6, 256}};
         for (int[] pair : bad) {
@@ -118,6 +157,11 @@ public final class InputTest {
         }
         dueInput("behind refused changes", press, Texts.of("xbcdef"));
         Check.due("count(1) behind changes", press.count(1), 0);
+        TextPress none = new TextPress();
+        Check.dueThrow("change of nothing", BAD, () -> {
+            none.change(0, 0);
+            return 0;
+        });
         press.end(1);
         Check.dueThrow("change of a BYTE that went", BAD, () -> {
             press.change(5, 1);
@@ -148,24 +192,28 @@ public final class InputTest {
         dueInput("turn of an empty OUTPUT", none, new byte[0]);
     }
 
-    /** LITERALS of nine bits grow the form by an eighth at each turn. */
     private static void turnOfWhatIsTooLong() {
-        TextPress press = Texts.withInput(Texts.random(new java.util.Random(5), 8000, 112));
-        for (int k = 0; k < 60 && press.press() <= Texts.LONGEST; k++) {
-            Check.due("turn of a form", press.turn(), press.count(1));
-        }
-        int input = press.count(0);
+        TextPress press = Texts.withTooLongOutput();
         int output = press.count(1);
-        long hash = press.hash(0);
         Check.due("a form is too long", output > Texts.LONGEST ? 1 : 0, 1);
         Check.dueThrow("turn of what is too long", STATE, press::turn);
-        Check.due("count(0) behind a refused turn", press.count(0), input);
-        Check.due("count(1) behind a refused turn", press.count(1), output);
-        Check.due("hash(0) behind a refused turn", press.hash(0), hash);
         Check.due("the first letter", press.letter(0), 120);
+        Check.due("letter 65536", press.letter(Texts.LONGEST) >= 0 ? 1 : 0, 1);
         Check.due("the last letter", press.letter(output - 1) >= 0 ? 1 : 0, 1);
         Check.dueThrow("the letter behind it", IndexOutOfBoundsException.class, () -> press.letter(output));
-        TextPress whole = full(Texts.LONGEST);
-        Check.due("turn of 65536 BYTES", whole.count(0), Texts.LONGEST);
+        // A LITERAL has 8 or 9 bits: one BYTE less makes the form shorter by one or two.
+        press.end((output - Texts.LONGEST) * 8 / 9 - 20);
+        for (int k = 0; k < 300 && press.press() > Texts.LONGEST + 1; k++) {
+            press.end(1);
+        }
+        Check.due("a form of 65537 BYTES", press.count(1), Texts.LONGEST + 1);
+        Check.dueThrow("turn of 65537 BYTES", STATE, press::turn);
+        press.end(1);
+        Check.due("a form of 65536 BYTES", press.press(), Texts.LONGEST);
+        byte[] form = Texts.output(press);
+        Check.due("turn of 65536 BYTES", press.turn(), Texts.LONGEST);
+        dueInput("a form of 65536 BYTES, turned", press, form);
+        Check.dueThrow("feed behind it", STATE, () -> press.feed(1, 2, 3, 4, 5));
+        Check.due("OUTPUT behind it", Texts.output(press), form);
     }
 }

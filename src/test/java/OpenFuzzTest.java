@@ -6,8 +6,8 @@ import java.util.zip.Deflater;
 import java.util.zip.Inflater;
 
 /**
- * Promise 6 against the JDK's inflater, on forms of its deflater that were changed at random. The
- * sum is set right behind each change, so that the change itself is what is judged.
+ * Promise 6 against the JDK's inflater and the plain reader, on forms of its deflater that were
+ * changed at random. The sum is set right behind each change, so that the change itself is judged.
  */
 public final class OpenFuzzTest {
     private static final int[] STRATEGIES = {
@@ -128,6 +128,24 @@ public final class OpenFuzzTest {
             refused++;
             Check.due("open of a damaged form", answer(press), -1);
         }
+        judgePlainly(framed(Arrays.copyOf(body, used), Arrays.copyOf(text, n)), press);
+    }
+
+    /** The plain reader counts blocks too, which the inflater doesn't tell. */
+    private static void judgePlainly(byte[] form, TextPress press) {
+        int blocks = 0;
+        int told = 0;
+        int damaged = 0;
+        try {
+            PlainReader reader = new PlainReader(form);
+            blocks = reader.blocks();
+            told = reader.told();
+        } catch (PlainReader.Damaged e) {
+            damaged = 1;
+        }
+        Check.due("blocks", press.count(4), blocks);
+        Check.due("told blocks", press.count(5), told);
+        Check.due("damaged", press.count(6), damaged);
     }
 
     private static int answer(TextPress press) {

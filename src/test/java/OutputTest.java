@@ -2,7 +2,10 @@
 public final class OutputTest {
     public static void main(String[] args) {
         letters();
+        lettersThatWent();
+        lastLetters();
         counts();
+        firstOnes();
         unknownCounts();
         Check.finish();
     }
@@ -23,6 +26,39 @@ public final class OutputTest {
         none.press();
         Check.due("open of a form of nothing", none.open(), 0);
         Check.dueThrow("letter(0) of nothing", IndexOutOfBoundsException.class, () -> none.letter(0));
+    }
+
+    /** OUTPUT becomes shorter, by press and by open: what stood behind isn't there any more. */
+    private static void lettersThatWent() {
+        byte[] text = Texts.random(new java.util.Random(4), 200, 256);
+        TextPress press = Texts.withInput(text);
+        int n = press.press();
+        Check.due("letter " + (n - 1), press.letter(n - 1), new PlainPress(text).form[n - 1] & 255);
+        press.end(199);
+        int fewer = press.press();
+        for (int i = fewer; i <= n; i++) {
+            int place = i;
+            Check.dueThrow("letter(" + i + ") that went by press", IndexOutOfBoundsException.class,
+                    () -> press.letter(place));
+        }
+        press.turn();
+        Check.due("open", press.open(), 1);
+        Check.due("letter(0)", press.letter(0), text[0] & 255);
+        for (int i = 1; i <= n; i++) {
+            int place = i;
+            Check.dueThrow("letter(" + i + ") that went by open", IndexOutOfBoundsException.class,
+                    () -> press.letter(place));
+        }
+    }
+
+    private static void lastLetters() {
+        byte[] text = Texts.same(250, Texts.LONGEST);
+        text[Texts.LONGEST - 1] = (byte) 251;
+        TextPress press = Texts.withInput(Texts.deflated(text, 9, 0));
+        Check.due("open of 65536", press.open(), Texts.LONGEST);
+        Check.due("letter(65534)", press.letter(Texts.LONGEST - 2), 250);
+        Check.due("letter(65535)", press.letter(Texts.LONGEST - 1), 251);
+        Check.dueThrow("letter(65536)", IndexOutOfBoundsException.class, () -> press.letter(Texts.LONGEST));
     }
 
     private static void dueCounts(String what, TextPress press, int... want) {
@@ -59,6 +95,18 @@ public final class OutputTest {
         press.change(pressed - 1, 1);
         Check.dueThrow("open with a wrong sum", ArithmeticException.class, press::open);
         dueCounts("damaged at the end", press, pressed, 6, 1, 3, 1, 0, 3);
+    }
+
+    /** "0 before the first one", of each sort, though the other one was. */
+    private static void firstOnes() {
+        TextPress press = Texts.withInput(Texts.of("abcabc"));
+        Check.dueThrow("a damaged open first", ArithmeticException.class, press::open);
+        dueCounts("damaged first", press, 6, 0, 0, 0, 0, 0, 1);
+        int n = press.press();
+        dueCounts("a press before the first good open", press, 6, n, 1, 3, 0, 0, 1);
+        TextPress other = Texts.withInput(Form.begun().fixed(1).end().of(new byte[0]));
+        other.open();
+        dueCounts("an open before the first press", other, other.count(0), 0, 0, 0, 1, 0, 0);
     }
 
     private static void unknownCounts() {

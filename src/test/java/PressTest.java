@@ -4,17 +4,11 @@ import java.util.zip.Inflater;
 
 /** Promise 5: press, what DEFLATED is, and counts 2 and 3 of promise 10. */
 public final class PressTest {
-    private static final int[] LENGTH_BASE = new int[29];
-    private static final int[] LENGTH_EXTRA = new int[29];
-    private static final int[] DISTANCE_BASE = new int[30];
-    private static final int[] DISTANCE_EXTRA = new int[30];
-    private static int pairs;
-    private static int literals;
-
     public static void main(String[] args) throws DataFormatException {
-        makeTables();
         knownForms();
         edges();
+        countsAtTheEdges();
+        pairsBitByBit();
         Random random = new Random(3);
         for (int k = 0; k < 400; k++) {
             against("random " + k, Texts.random(random, random.nextInt(400), 1 + random.nextInt(1 + k % 256)));
@@ -29,23 +23,6 @@ public final class PressTest {
         Check.finish();
     }
 
-    /** RFC 1951, 3.2.5: the bases follow from the extra bits. */
-    private static void makeTables() {
-        int length = 3;
-        for (int k = 0; k < 28; k++) {
-            LENGTH_BASE[k] = length;
-            LENGTH_EXTRA[k] = k < 8 ? 0 : k / 4 - 1;
-            length += 1 << LENGTH_EXTRA[k];
-        }
-        LENGTH_BASE[28] = 258;
-        int distance = 1;
-        for (int k = 0; k < 30; k++) {
-            DISTANCE_BASE[k] = distance;
-            DISTANCE_EXTRA[k] = k < 4 ? 0 : k / 2 - 1;
-            distance += 1 << DISTANCE_EXTRA[k];
-        }
-    }
-
     private static void knownForms() {
         TextPress press = new TextPress();
         Check.due("press of nothing", press.press(), 8);
@@ -58,6 +35,66 @@ public final class PressTest {
         Check.due("ten a, pressed", Texts.output(press), Texts.of(120, 1, 0x4b, 0x84, 3, 0, 0x14, 0xe1, 3, 0xcb));
         Check.due("ten a, PAIRS", press.count(2), 1);
         Check.due("ten a, LITERALS", press.count(3), 1);
+    }
+
+    private static void dueCounts(String what, byte[] text, int pairs, int literals) {
+        TextPress press = Texts.withInput(text);
+        press.press();
+        Check.due(what + ", PAIRS", press.count(2), pairs);
+        Check.due(what + ", LITERALS", press.count(3), literals);
+    }
+
+    /** Lengths are 3 to 258, places 1 to 32768 before. */
+    private static void countsAtTheEdges() {
+        dueCounts("nothing", new byte[0], 0, 0);
+        dueCounts("one", Texts.same('a', 1), 0, 1);
+        dueCounts("two alike", Texts.same('a', 2), 0, 2);
+        dueCounts("three alike", Texts.same('a', 3), 0, 3);
+        dueCounts("four alike", Texts.same('a', 4), 1, 1);
+        dueCounts("two BYTES again", Texts.of("abxab"), 0, 5);
+        dueCounts("three BYTES again", Texts.of("abcxabc"), 1, 4);
+        dueCounts("258 alike", Texts.same('a', 258), 1, 1);
+        dueCounts("259 alike", Texts.same('a', 259), 1, 1);
+        dueCounts("260 alike: one is left", Texts.same('a', 260), 1, 2);
+        dueCounts("261 alike: two are left", Texts.same('a', 261), 1, 3);
+        dueCounts("262 alike: three are left", Texts.same('a', 262), 2, 1);
+        // 65535 behind the first one: 254 PAIRS of 258 and one of 3.
+        dueCounts("65536 alike", Texts.same('a', Texts.LONGEST), 255, 1);
+        byte[] far = Texts.joined(Texts.of("abc"), Texts.same(0, 32765), Texts.of("abc"));
+        // 32764 zeros behind the first one: 126 PAIRS of 258 and one of 256.
+        dueCounts("abc 32768 places before", far, 128, 4);
+        byte[] farther = Texts.joined(Texts.of("abc"), Texts.same(0, 32766), Texts.of("abc"));
+        dueCounts("abc 32769 places before", farther, 127, 7);
+    }
+
+    private static void duePressed(String what, byte[] text, Form want) {
+        TextPress press = Texts.withInput(text);
+        press.press();
+        Check.due(what, Texts.output(press), want.end().of(text));
+    }
+
+    private static void pairsBitByBit() {
+        duePressed("258 is told by length code 285", Texts.same('a', 259),
+                Form.begun().fixed(1).letter('a').letter(285).distance(0));
+        duePressed("257 is told by length code 284", Texts.same('a', 258),
+                Form.begun().fixed(1).letter('a').letter(284).bits(30, 5).distance(0));
+        duePressed("an overlap of distance 2", Texts.of("ababa"),
+                Form.begun().fixed(1).letters(Texts.of("ab")).letter(257).distance(1));
+        duePressed("the least distance", Texts.of("abc1abc2abc"),
+                Form.begun().fixed(1).letters(Texts.of("abc1")).letter(257).distance(3)
+                        .letter('2').letter(257).distance(3));
+        duePressed("a greater length goes before a lesser distance", Texts.of("abcd1abc2abcd"),
+                Form.begun().fixed(1).letters(Texts.of("abcd1")).letter(257).distance(4).bits(0, 1)
+                        .letter('2').letter(258).distance(6).bits(0, 2));
+        duePressed("a distance of 4 with its places between", Texts.of("abcdabcdabcdabcd"),
+                Form.begun().fixed(1).letters(Texts.of("abcd")).letter(265).bits(1, 1).distance(3));
+        byte[] zeros = Texts.same(0, 32765);
+        Form far = Form.begun().fixed(1).letters(Texts.of("abc")).letter(0);
+        for (int k = 0; k < 126; k++) {
+            far.letter(285).distance(0);
+        }
+        far.letter(284).bits(256 - 227, 5).distance(0).letter(257).distance(29).bits(8191, 13);
+        duePressed("a distance of 32768", Texts.joined(Texts.of("abc"), zeros, Texts.of("abc")), far);
     }
 
     private static void edges() throws DataFormatException {
@@ -106,7 +143,7 @@ public final class PressTest {
     /** "abc" again after so many places, with but zeros between: up to 32768 it is a PAIR. */
     private static void distances(Random random) throws DataFormatException {
         for (int code = 0; code < 30; code++) {
-            for (int distance = DISTANCE_BASE[code] - 1; distance <= DISTANCE_BASE[code] + 1; distance++) {
+            for (int distance = PlainPress.distanceBase(code) - 1; distance <= PlainPress.distanceBase(code) + 1; distance++) {
                 if (distance >= 3) {
                     apart(distance);
                 }
@@ -118,12 +155,6 @@ public final class PressTest {
         for (int k = 0; k < 60; k++) {
             apart(3 + random.nextInt(32766));
         }
-        TextPress press = Texts.withInput(Texts.joined(Texts.of("abc"), Texts.same(0, 32765), Texts.of("abc")));
-        press.press();
-        Check.due("LITERALS with abc 32768 places before", press.count(3), 4);
-        press = Texts.withInput(Texts.joined(Texts.of("abc"), Texts.same(0, 32766), Texts.of("abc")));
-        press.press();
-        Check.due("LITERALS with abc 32769 places before", press.count(3), 7);
     }
 
     private static void apart(int distance) throws DataFormatException {
@@ -133,14 +164,14 @@ public final class PressTest {
 
     private static void against(String what, byte[] text) throws DataFormatException {
         TextPress press = Texts.withInput(text);
-        byte[] want = wanted(text);
-        Check.due(what + ", press", press.press(), want.length);
-        Check.due(what + ", count(1)", press.count(1), want.length);
-        Check.due(what + ", PAIRS", press.count(2), pairs);
-        Check.due(what + ", LITERALS", press.count(3), literals);
+        PlainPress want = new PlainPress(text);
+        Check.due(what + ", press", press.press(), want.form.length);
+        Check.due(what + ", count(1)", press.count(1), want.form.length);
+        Check.due(what + ", PAIRS", press.count(2), want.pairs());
+        Check.due(what + ", LITERALS", press.count(3), want.literals());
         Check.due(what + ", count(0)", press.count(0), text.length);
         byte[] form = Texts.output(press);
-        Check.due(what, form, want);
+        Check.due(what, form, want.form);
         Inflater inflater = new Inflater();
         inflater.setInput(form);
         byte[] back = new byte[text.length];
@@ -148,52 +179,6 @@ public final class PressTest {
         Check.due(what + ", inflated length", n, text.length);
         Check.due(what + ", inflated", back, text);
         inflater.end();
-    }
-
-    /** The form by the document's words: each place before is looked at, the nearest first. */
-    private static byte[] wanted(byte[] text) {
-        Form form = Form.begun().fixed(1);
-        pairs = 0;
-        literals = 0;
-        int place = 0;
-        while (place < text.length) {
-            int length = 0;
-            int distance = 0;
-            int most = Math.min(258, text.length - place);
-            for (int d = 1; d <= Math.min(place, 32768) && length < most; d++) {
-                int same = 0;
-                while (same < most && text[place + same] == text[place - d + same]) {
-                    same++;
-                }
-                if (same > length) {
-                    length = same;
-                    distance = d;
-                }
-            }
-            if (length < 3) {
-                form.letter(text[place] & 255);
-                literals++;
-                place++;
-            } else {
-                putPair(form, length, distance);
-                pairs++;
-                place += length;
-            }
-        }
-        return form.end().of(text);
-    }
-
-    private static void putPair(Form form, int length, int distance) {
-        int code = 28;
-        while (LENGTH_BASE[code] > length) {
-            code--;
-        }
-        form.letter(257 + code).bits(length - LENGTH_BASE[code], LENGTH_EXTRA[code]);
-        code = 29;
-        while (DISTANCE_BASE[code] > distance) {
-            code--;
-        }
-        form.distance(code).bits(distance - DISTANCE_BASE[code], DISTANCE_EXTRA[code]);
     }
 
     /** Earlier presses of other TEXTS must leave no trace. */

@@ -14,6 +14,7 @@ public final class RoomTest {
         long made = BEAN.getCurrentThreadAllocatedBytes() - before;
         Check.due("a new object, count(0)", press.count(0), 0);
         atMost("a new object", made, 40000);
+        atMost("a short run", shortRun(), 45000);
         // Three rows of bytes and one of ints, each with all the rooms that it had before.
         atMost("the dearest run", dearest(form), 1000000);
         Check.finish();
@@ -39,6 +40,23 @@ public final class RoomTest {
         long last = BEAN.getCurrentThreadAllocatedBytes();
         atMost("calls made again", last - once, 1000);
         return last - before;
+    }
+
+    /** A run may make many objects: a short TEXT must not cost the room of a long one. */
+    private static long shortRun() {
+        long before = BEAN.getCurrentThreadAllocatedBytes();
+        TextPress press = new TextPress();
+        for (int k = 0; k < 20; k++) {
+            press.feed(k, 2 * k, 3 * k, 4 * k, 5 * k);
+        }
+        for (int k = 0; k < 20; k++) {
+            press.press();
+            press.hash(0);
+            press.turn();
+            press.open();
+            press.turn();
+        }
+        return BEAN.getCurrentThreadAllocatedBytes() - before;
     }
 
     private static void round(TextPress press, int part) {

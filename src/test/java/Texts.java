@@ -1,4 +1,7 @@
 import java.io.ByteArrayOutputStream;
+import java.nio.ByteBuffer;
+import java.security.MessageDigest;
+import java.security.NoSuchAlgorithmException;
 import java.util.Arrays;
 import java.util.Random;
 import java.util.zip.Deflater;
@@ -59,6 +62,16 @@ final class Texts {
         return all.toByteArray();
     }
 
+    /** What hash(part) must answer for this INPUT, by the JDK. */
+    static long sha1(byte[] text, int part) {
+        try {
+            ByteBuffer hash = ByteBuffer.wrap(MessageDigest.getInstance("SHA-1").digest(text));
+            return part == 2 ? hash.getInt(16) & 0xFFFFFFFFL : hash.getLong(8 * part);
+        } catch (NoSuchAlgorithmException e) {
+            throw new UnsupportedOperationException(e);
+        }
+    }
+
     static byte[] deflated(byte[] text, int level, int strategy) {
         Deflater deflater = new Deflater(level);
         deflater.setStrategy(strategy);
@@ -84,6 +97,15 @@ final class Texts {
         feedAll(press, form);
         press.open();
         press.turn();
+        return press;
+    }
+
+    /** LITERALS of nine bits make each form longer than its TEXT, until one is too long for INPUT. */
+    static TextPress withTooLongOutput() {
+        TextPress press = withInput(random(new Random(5), 8000, 112));
+        for (int k = 0; k < 60 && press.press() <= LONGEST; k++) {
+            press.turn();
+        }
         return press;
     }
 

@@ -569,20 +569,15 @@ public final class TextPress {
             ranOut = false;
         }
 
-        int bit() {
-            if (place >= bitsInAll) {
-                ranOut = true;
-                return 0;
-            }
-            int bit = bytes[place >> 3] >> (place & 7) & 1;
-            place++;
-            return bit;
-        }
-
         int take(int n) {
             int value = 0;
             for (int k = 0; k < n; k++) {
-                value |= bit() << k;
+                if (place >= bitsInAll) {
+                    ranOut = true;
+                    return value;
+                }
+                value |= (bytes[place >> 3] >> (place & 7) & 1) << k;
+                place++;
             }
             return value;
         }
@@ -667,7 +662,7 @@ public final class TextPress {
             int first = 0;
             int shorter = 0;
             for (int length = 1; length <= LONGEST_CODE; length++) {
-                code = code << 1 | bits.bit();
+                code = code << 1 | bits.take(1);
                 first <<= 1;
                 int here = code - first;
                 if (here < numbers[length]) {
